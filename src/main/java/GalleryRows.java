@@ -12,6 +12,7 @@ public final class GalleryRows {
     private static final int SIDE_OF_SHEET = 5;
     private static final int SETS_OF_MEMBERS = 128;
     private static final int AT_AN_END = -1;
+    private static final int MORE_THAN_ANY = 1000000;
 
     private static final int NOBODY = -1;
     private static final int OTHER = -2;
@@ -753,7 +754,7 @@ public final class GalleryRows {
         static int bestCut(int inRow, int members, int yes, int no) {
             int voted = Integer.bitCount(yes | no);
             int left = 0;
-            int best = Integer.MAX_VALUE;
+            int best = MORE_THAN_ANY;
             for (int c = 0; c <= members; c++) {
                 int yesLeft = Integer.bitCount(left & no) + Integer.bitCount(yes & ~left);
                 best = Math.min(best, 100 * yesLeft + 2 * c);
@@ -988,7 +989,7 @@ public final class GalleryRows {
             if (filled) {
                 return;
             }
-            for (int set = 0; set <= house.everyone(); set++) {
+            for (int set = 0; set < SETS_OF_MEMBERS && set <= house.everyone(); set++) {
                 fillSet(set);
             }
             filled = true;
@@ -1053,11 +1054,9 @@ public final class GalleryRows {
                 withTwo |= least >= 2 ? 1 << v : 0;
                 withThree |= least >= 3 ? 1 << v : 0;
             }
-            if (set >= 0 && set < SETS_OF_MEMBERS) {
-                ones[set] = withOne;
-                twos[set] = withTwo;
-                threes[set] = withThree;
-            }
+            ones[set] = withOne;
+            twos[set] = withTwo;
+            threes[set] = withThree;
         }
     }
 
@@ -1124,7 +1123,7 @@ public final class GalleryRows {
         }
 
         int leastWrongOf(int votes) {
-            int fewest = Integer.MAX_VALUE;
+            int fewest = MORE_THAN_ANY;
             for (int i = 0; i < listed; i++) {
                 int wrong = Integer.bitCount(ones[i] & votes) + Integer.bitCount(twos[i] & votes)
                     + Integer.bitCount(threes[i] & votes);
@@ -1167,7 +1166,8 @@ public final class GalleryRows {
                     joined |= ~ones[i];
                 }
             }
-            return Integer.lowestOneBit(lower & ~joined);
+            int missing = lower & ~joined;
+            return missing & -missing;
         }
 
         void sift() {
@@ -1176,7 +1176,7 @@ public final class GalleryRows {
             }
             noteHeld();
             bestCount = 0;
-            least = Integer.MAX_VALUE;
+            least = MORE_THAN_ANY;
             for (int i = 0; i < listed; i++) {
                 int wrong = Integer.bitCount(ones[i]) + Integer.bitCount(twos[i]) + Integer.bitCount(threes[i]);
                 if (wrong <= least && isAsHeld(all[i])) {
@@ -1191,7 +1191,7 @@ public final class GalleryRows {
 
         private void noteHeld() {
             ends = house.heldEnds();
-            for (int m = 0; m < house.members(); m++) {
+            for (int m = 0; m < house.members() && m < MOST_MEMBERS; m++) {
                 beside[m] = house.heldBeside(m);
             }
         }
@@ -1202,8 +1202,9 @@ public final class GalleryRows {
                 int m = Line.at(inRow, i);
                 int around = i > 0 ? 1 << Line.at(inRow, i - 1) : 0;
                 around |= i < last ? 1 << Line.at(inRow, i + 1) : 0;
+                int needed = m < MOST_MEMBERS ? beside[m] : 0;
                 boolean isInside = i > 0 && i < last;
-                if ((beside[m] & ~around) != 0 || (isInside && has(ends, m))) {
+                if ((needed & ~around) != 0 || (isInside && has(ends, m))) {
                     return false;
                 }
             }
@@ -1285,7 +1286,7 @@ public final class GalleryRows {
 
         int bestLine(int yes, int no) {
             int voted = Integer.bitCount(yes | no);
-            int best = Integer.MAX_VALUE;
+            int best = MORE_THAN_ANY;
             for (int sort = 0; sort < SORTS; sort++) {
                 noteStanding(sort);
                 int below = 0;
@@ -1367,7 +1368,7 @@ public final class GalleryRows {
 
         boolean find(int inRow) {
             sides.walk(inRow);
-            for (int v = 0; v < house.votes(); v++) {
+            for (int v = 0; v < house.votes() && v < MOST_VOTES; v++) {
                 before[v] = sides.wrongsOf(v);
             }
             // A key: the fall, and behind it what is more for a lesser member, year, and place.
@@ -1419,7 +1420,7 @@ public final class GalleryRows {
                 falls[year] = 0;
             }
             sides.walk(moved);
-            for (int v = 0; v < house.votes(); v++) {
+            for (int v = 0; v < house.votes() && v < MOST_VOTES; v++) {
                 int year = house.yearOf(v);
                 if (year >= 0 && year < YEARS) {
                     falls[year] += before[v] - sides.wrongsOf(v);

@@ -343,7 +343,11 @@ final class PlainHouse {
         int[] best = null;
         for (int c = 0; c <= row.length; c++) {
             for (int side = 0; side < 2; side++) {
-                int wrong = wrongBy(words, row, c, side).size();
+                int wrong = 0;
+                for (int place = 0; place < row.length; place++) {
+                    char word = row[place] < words.length() ? words.charAt(row[place]) : 'a';
+                    wrong += word == (place < c == (side == 0) ? 'n' : 'y') ? 1 : 0;
+                }
                 if (best == null || wrong < best[0]) {
                     best = new int[] {wrong, c, side};
                 }
@@ -682,12 +686,16 @@ final class PlainHouse {
         if (bests().isEmpty()) {
             return -9;
         }
-        int[] first = bests().get(0);
+        int[] before = wrongs(bests().get(0));
         int[] best = {0, -9, -9, -9};
         for (int m = 0; m < members(); m++) {
+            List<int[]> after = new ArrayList<>();
+            for (int place = 0; place < members(); place++) {
+                after.add(wrongs(moved(m, place)));
+            }
             for (int year = 0; year < 100; year++) {
                 for (int place = 0; place < members(); place++) {
-                    int fall = fallBy(first, m, year, place);
+                    int fall = fallFrom(year, before, after.get(place));
                     if (fall > best[0]) {
                         best = new int[] {fall, m, year, place};
                     }
@@ -697,20 +705,25 @@ final class PlainHouse {
         return best[0] == 0 ? -9 : best[what];
     }
 
-    private int fallBy(int[] first, int m, int year, int place) {
+    private int[] wrongs(int[] row) {
+        return now.words.stream().mapToInt(words -> bestCut(words, row)[0]).toArray();
+    }
+
+    private int[] moved(int m, int place) {
         List<Integer> moved = new ArrayList<>();
-        for (int other : first) {
+        for (int other : bests().get(0)) {
             if (other != m) {
                 moved.add(other);
             }
         }
         moved.add(place, m);
-        int[] row = moved.stream().mapToInt(Integer::intValue).toArray();
+        return moved.stream().mapToInt(Integer::intValue).toArray();
+    }
+
+    private int fallFrom(int year, int[] before, int[] after) {
         int fall = 0;
         for (int v = 0; v < votes(); v++) {
-            if (now.voteYears.get(v) >= year) {
-                fall += bestCut(now.words.get(v), first)[0] - bestCut(now.words.get(v), row)[0];
-            }
+            fall += now.voteYears.get(v) >= year ? before[v] - after[v] : 0;
         }
         return fall;
     }
