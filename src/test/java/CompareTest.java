@@ -2,6 +2,7 @@
 public final class CompareTest {
     private static final int RUNS = 100;
     private static final int CALLS = 512;
+    private static final int FULL_RUNS = 12;
 
     private static int wrong = 0;
     private static long seed = 1;
@@ -24,6 +25,10 @@ public final class CompareTest {
         for (int run = 0; run < RUNS && wrong < 20; run++) {
             seed = 1000003L * (run + 1);
             calls += new CompareTest().run(run);
+        }
+        for (int run = 0; run < FULL_RUNS && wrong < 20; run++) {
+            seed = 7000003L * (run + 1);
+            calls += new CompareTest().fullHouse(run);
         }
         System.out.println(wrong == 0 ? "CompareTest: " + calls + " calls alike" : "CompareTest: " + wrong + " not alike");
         if (wrong != 0) {
@@ -52,6 +57,42 @@ public final class CompareTest {
             }
         }
         return CALLS;
+    }
+
+    /** Seven members who all vote: only there has a vote three wrong in every row at hand. */
+    private int fullHouse(int run) {
+        rows = new GalleryRows();
+        plain = new PlainHouse();
+        for (int m = 0; m < 7; m++) {
+            same("member(0, 99)", rows.member(0, 99), plain.member(0, 99));
+            int at = number(25);
+            same("place(" + m + ")", rows.place(m, at / 5, at % 5), plain.place(m, at / 5, at % 5));
+        }
+        for (int v = 0; v < 24; v++) {
+            int yes = number(128);
+            int year = number(4) * 33;
+            same("vote(" + v + ")", rows.vote(year, yes, 127 - yes), plain.vote(year, yes, 127 - yes));
+        }
+        same("hold(0, 1)", rows.hold(0, 1), plain.hold(0, 1));
+        same("hold(2, -1)", rows.hold(2, -1), plain.hold(2, -1));
+        same("best(0)", rows.best(0), plain.best(0));
+        same("best(1)", rows.best(1), plain.best(1));
+        same("open()", rows.open(), plain.open());
+        same("knot()", rows.knot(), plain.knot());
+        same("chance(20, 5)", rows.chance(20, 5), plain.chance(20, 5));
+        same("sheet()", rows.sheet(), plain.sheet());
+        for (int many = 1; many <= 3; many++) {
+            same("odd(" + many + ")", rows.odd(many), plain.odd(many));
+            same("second(" + many + ")", rows.second(many), plain.second(many));
+        }
+        for (int what = 0; what <= 3; what++) {
+            same("move(" + what + ")", rows.move(what), plain.move(what));
+        }
+        same("turn()", rows.turn(), plain.turn());
+        if (wrong > 0) {
+            System.out.println("  in the full house " + run);
+        }
+        return 7 + 7 + 24 + 8 + 6 + 4 + 1;
     }
 
     private boolean oneCall(int most, boolean isBook, int i) {
