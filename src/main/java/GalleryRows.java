@@ -1227,20 +1227,21 @@ public final class GalleryRows {
         void listAll() {
             if (listedMembers != house.members()) {
                 listed = 0;
-                extend(0, 0, 0);
+                extend(this, 0, 0, 0);
                 listedMembers = house.members();
             }
         }
 
         // Goes down one level for each member. The lesser members come first, so the list is in order.
-        private void extend(int placed, int used, int inRow) {
-            if (placed >= house.members()) {
-                keep(inRow);
+        private static void extend(Rows rows, int placed, int used, int inRow) {
+            int members = rows.house.members();
+            if (placed >= members || placed >= MOST_MEMBERS) {
+                rows.keep(inRow);
                 return;
             }
-            for (int m = 0; m < house.members(); m++) {
+            for (int m = 0; m < members; m++) {
                 if (!has(used, m)) {
-                    extend(placed + 1, used | (1 << m), Line.with(inRow, placed, m));
+                    extend(rows, placed + 1, used | (1 << m), Line.with(inRow, placed, m));
                 }
             }
         }
