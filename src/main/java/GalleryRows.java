@@ -877,7 +877,6 @@ public final class GalleryRows {
         }
 
         private void heldStatement(boolean isEnd) {
-            int start = at;
             letter(house.hasRoomForHeld());
             int a = digit(house.members());
             int b = AT_AN_END;
@@ -888,11 +887,9 @@ public final class GalleryRows {
                     fail(secondDigit);
                 }
             }
-            if (house.isHeld(a, b)) {
-                fail(start);
-            }
             expect(';');
-            if (fault == NONE) {
+            // What is held so already may be told again: that statement comes too, and adds nothing.
+            if (fault == NONE && !house.isHeld(a, b)) {
                 house.addHeld(a, b);
             }
         }

@@ -270,6 +270,9 @@ public final class CompareTest {
         if (number(6) == 0 && book.length() > 0) {
             book.deleteCharAt(number(book.length()));
         }
+        if (number(6) == 0 && book.length() > 0) {
+            book.setLength(number(book.length()));
+        }
         return book.toString();
     }
 }

@@ -189,10 +189,11 @@ final class PlainHouse {
             b = sign(book, at + 2) - '0';
             need(!noMember(b) && b != a, at + 2);
         }
-        need(!isHeld(a, b), at);
         int end = letter == 'k' ? at + 3 : at + 2;
         needSign(book, end, ';');
-        now.held.add(Arrays.asList(a, b));
+        if (!isHeld(a, b)) {
+            now.held.add(Arrays.asList(a, b));
+        }
         return end + 1;
     }
 

@@ -11,6 +11,7 @@ public final class PromisesTest {
         readStatements();
         readFaultsOfForm();
         readFaultsOfSense();
+        readWhatIsHeldAlready();
         readFaultsOfRoom();
         member();
         party();
@@ -227,16 +228,37 @@ public final class PromisesTest {
         dueRead(x, "p20;", -21);
         dueRead(x, "p04;", -22);
         dueRead(x, "k01;e0;", 2);
-        dueRead(x, "k01;", -20);
-        dueRead(x, "p01;k10;", -24);
-        dueRead(x, "e0;", -20);
-        dueRead(x, "e1;e1;", -23);
+        dueRead(x, "e1;e1;", 2);
         due("count(2)", x.count(2), 3);
         dueRead(x, "v6:yn;m1-2;v3:yan;", -36);
         due("count(0)", x.count(0), 3);
         due("count(1)", x.count(1), 2);
         due("count(14)", x.count(14), 0);
         due("count(13)", x.count(13), 0);
+    }
+
+    private static void readWhatIsHeldAlready() {
+        GalleryRows x = house(4);
+        x.hold(0, -1);
+        dueRead(x, "e0", -22);
+        dueRead(x, "e0;", 1);
+        dueRead(x, "e0;e0;e0x", -28);
+        dueRead(x, "k12;k21;k12;", 3);
+        due("count(2)", x.count(2), 2);
+        dueRead(x, "k21", -23);
+        dueRead(x, "k21k", -23);
+        dueRead(x, "k21;p01;m5-4;", -31);
+        dueRead(x, "e1;e0;k01;", 3);
+        due("count(2)", x.count(2), 4);
+        due("best(1)", x.best(1), -9);
+        due("free()", x.free(), 4);
+        dueRead(x, "k12;k21;e0;e0;", 4);
+        due("best(1)", x.best(1), 4);
+        due("hold(2, 1)", x.hold(2, 1), -3);
+        dueRead(x, "k01;k02;k03;k13;k23;e1;e2;e2;k30;", 9);
+        due("count(2)", x.count(2), 9);
+        dueRead(x, "e3;e3;", -23);
+        due("count(2)", x.count(2), 10);
     }
 
     private static void readFaultsOfRoom() {
@@ -246,7 +268,13 @@ public final class PromisesTest {
         dueRead(x, "k06;k01;k02;k03;k04;k05;k12;k13;k14;", 9);
         dueRead(x, "e0;e1;", -23);
         dueRead(x, "k06;", -20);
+        dueRead(x, "k60", -20);
+        dueRead(x, "p01;e0;", -24);
+        dueRead(x, "e", -20);
         due("count(2)", x.count(2), 10);
+        due("free()", x.free(), 10);
+        dueRead(x, "k06;e0;k60;e0;", 4);
+        due("count(2)", x.count(2), 2);
         for (int i = 0; i < 23; i++) {
             x.vote(i, 0, 0);
         }
