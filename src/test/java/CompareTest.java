@@ -1,12 +1,14 @@
 /** Long runs of calls on GalleryRows and on PlainHouse, which must answer alike. */
 public final class CompareTest {
-    private static final int RUNS = 100;
+    private static final int RUNS = 140;
     private static final int CALLS = 512;
     private static final int FULL_RUNS = 12;
+    private static final int MOST_CALLS_OF_A_TEXT = 16;
 
     private static int wrong = 0;
     private static long seed = 1;
 
+    private int calls = 0;
     private GalleryRows rows;
     private PlainHouse plain;
 
@@ -37,6 +39,7 @@ public final class CompareTest {
     }
 
     private boolean same(String call, int got, int due) {
+        calls++;
         if (got == due) {
             return true;
         }
@@ -50,13 +53,14 @@ public final class CompareTest {
         plain = new PlainHouse();
         int most = run % 10 == 0 ? 7 : number(1, 5);
         boolean isBook = run % 3 == 0;
-        for (int i = 0; i < CALLS; i++) {
+        // An object answers as promised for 512 calls only: one text may take many of them.
+        for (int i = 0; calls + MOST_CALLS_OF_A_TEXT <= CALLS; i++) {
             if (!oneCall(most, isBook, i)) {
-                System.out.println("  in run " + run + ", call " + i);
-                return i;
+                System.out.println("  in run " + run + ", call " + calls);
+                return calls;
             }
         }
-        return CALLS;
+        return calls;
     }
 
     /** Seven members who all vote: only there has a vote three wrong in every row at hand. */
@@ -92,7 +96,7 @@ public final class CompareTest {
         if (wrong > 0) {
             System.out.println("  in the full house " + run);
         }
-        return 7 + 7 + 24 + 8 + 6 + 4 + 1;
+        return calls;
     }
 
     private boolean oneCall(int most, boolean isBook, int i) {

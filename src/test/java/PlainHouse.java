@@ -837,7 +837,7 @@ final class PlainHouse {
             case 4:
                 return text.length();
             case 5:
-                return (int) String.join("", now.words).replace("a", "").length();
+                return String.join("", now.words).replace("a", "").length();
             case 11:
             case 12:
             case 13:

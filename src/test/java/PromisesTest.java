@@ -1,5 +1,3 @@
-import java.util.function.IntSupplier;
-
 /** For each promise of the document: ordinary answers, the edges that it names, and refusals. */
 public final class PromisesTest {
     private static int wrong = 0;
@@ -45,8 +43,6 @@ public final class PromisesTest {
         restore();
         count();
         refusalsChangeNothing();
-        eachRefusalIsCounted();
-        whatIsNoRefusalIsNotCounted();
         dearestCalls();
         System.out.println(wrong == 0 ? "PromisesTest: all as due" : "PromisesTest: " + wrong + " not as due");
         if (wrong != 0) {
@@ -1145,107 +1141,6 @@ public final class PromisesTest {
         due("count(11)", x.count(11), 3);
         due("count(13)", x.count(13), 7);
         due("count(16)", x.count(16), 3);
-    }
-
-    private static void refused(GalleryRows x, String call, IntSupplier run, int want) {
-        int[] before = new int[6];
-        for (int i = 0; i < 6; i++) {
-            before[i] = x.count(11 + i);
-        }
-        due(call, run.getAsInt(), want);
-        for (int i = 0; i < 6; i++) {
-            due("count(" + (11 + i) + ") behind " + call, x.count(11 + i), before[i] + (want == -1 - i ? 1 : 0));
-        }
-    }
-
-    private static void eachRefusalIsCounted() {
-        promise = "REFUSALS";
-        GalleryRows x = house(3);
-        refused(x, "feed(0, 0)", () -> x.feed(0, 0), -4);
-        refused(x, "feed(9, 0)", () -> x.feed(9, 0), -6);
-        refused(x, "member(-1, 0)", () -> x.member(-1, 0), -4);
-        refused(x, "member(0, 100)", () -> x.member(0, 100), -6);
-        refused(x, "member(1, 0)", () -> x.member(1, 0), -3);
-        refused(x, "party(3, 0)", () -> x.party(3, 0), -1);
-        refused(x, "party(0, -1)", () -> x.party(0, -1), -4);
-        refused(x, "party(0, 4)", () -> x.party(0, 4), -6);
-        refused(x, "vote(-1, 0, 0)", () -> x.vote(-1, 0, 0), -4);
-        refused(x, "vote(100, 0, 0)", () -> x.vote(100, 0, 0), -6);
-        refused(x, "vote(0, 8, 0)", () -> x.vote(0, 8, 0), -1);
-        refused(x, "vote(0, 1, 1)", () -> x.vote(0, 1, 1), -3);
-        refused(x, "takeOut()", x::takeOut, -3);
-        refused(x, "restore()", x::restore, -3);
-        x.vote(1, 1, 6);
-        refused(x, "of(1, 0)", () -> x.of(1, 0), -1);
-        refused(x, "of(0, 3)", () -> x.of(0, 3), -2);
-        refused(x, "apart(0, 3)", () -> x.apart(0, 3), -1);
-        refused(x, "put(3)", () -> x.put(3), -1);
-        x.put(0);
-        refused(x, "put(0)", () -> x.put(0), -3);
-        refused(x, "judge()", x::judge, -3);
-        refused(x, "cut(1)", () -> x.cut(1), -1);
-        refused(x, "cut(0)", () -> x.cut(0), -3);
-        refused(x, "wrong(1)", () -> x.wrong(1), -1);
-        refused(x, "wrong(0)", () -> x.wrong(0), -3);
-        refused(x, "best(2)", () -> x.best(2), -2);
-        refused(x, "chance(0, 0)", () -> x.chance(0, 0), -4);
-        refused(x, "chance(21, 0)", () -> x.chance(21, 0), -6);
-        refused(x, "place(3, 0, 0)", () -> x.place(3, 0, 0), -1);
-        refused(x, "place(0, 0, -1)", () -> x.place(0, 0, -1), -4);
-        refused(x, "place(0, 0, 5)", () -> x.place(0, 0, 5), -6);
-        refused(x, "line(1)", () -> x.line(1), -1);
-        refused(x, "odd(0)", () -> x.odd(0), -4);
-        refused(x, "odd(4)", () -> x.odd(4), -6);
-        refused(x, "second(0)", () -> x.second(0), -4);
-        refused(x, "second(4)", () -> x.second(4), -6);
-        refused(x, "move(4)", () -> x.move(4), -2);
-        refused(x, "stretches(4)", () -> x.stretches(4), -1);
-        refused(x, "parties(2)", () -> x.parties(2), -2);
-        refused(x, "say(0, 3)", () -> x.say(0, 3), -1);
-        refused(x, "say(0, 0)", () -> x.say(0, 0), -3);
-        refused(x, "sure(1, 0)", () -> x.sure(1, 0), -1);
-        refused(x, "sure(0, 0)", () -> x.sure(0, 0), -3);
-        refused(x, "hold(0, 0)", () -> x.hold(0, 0), -1);
-        x.hold(0, 1);
-        refused(x, "hold(1, 0)", () -> x.hold(1, 0), -3);
-        GalleryRows full = house(7);
-        for (int m = 0; m < 5; m++) {
-            full.hold(m, m + 1);
-            full.hold(m, -1);
-        }
-        refused(full, "hold(6, 0)", () -> full.hold(6, 0), -6);
-        refused(full, "member(0, 0)", () -> full.member(0, 0), -6);
-        for (int v = 0; v < 24; v++) {
-            full.vote(0, 0, 0);
-        }
-        refused(full, "vote(0, 0, 0)", () -> full.vote(0, 0, 0), -6);
-        feedText(full, "x".repeat(90));
-        refused(full, "feed(1, 0)", () -> full.feed(1, 0), -6);
-        refused(full, "restore()", full::restore, -3);
-    }
-
-    private static void whatIsNoRefusalIsNotCounted() {
-        promise = "REFUSALS";
-        GalleryRows x = house(3);
-        x.vote(1, 1, 2);
-        x.hold(0, 1);
-        x.hold(1, 2);
-        x.hold(0, 2);
-        feedText(x, "m9-8;");
-        refused(x, "read()", x::read, -23);
-        refused(x, "best(0)", () -> x.best(0), -9);
-        refused(x, "row(0, 0)", () -> x.row(0, 0), -9);
-        refused(x, "open()", x::open, -9);
-        refused(x, "knot()", x::knot, -9);
-        refused(x, "chance(1, 1)", () -> x.chance(1, 1), -9);
-        refused(x, "odd(1)", () -> x.odd(1), -9);
-        refused(x, "second(1)", () -> x.second(1), -9);
-        refused(x, "move(0)", () -> x.move(0), -9);
-        refused(x, "stretches(0)", () -> x.stretches(0), -9);
-        refused(x, "parties(0)", () -> x.parties(0), -9);
-        refused(x, "say(0, 2)", () -> x.say(0, 2), -9);
-        refused(x, "sure(0, 2)", () -> x.sure(0, 2), -9);
-        refused(x, "count(6)", () -> x.count(6), -9);
     }
 
     /** Full houses, asked all that there is, again and again: no call may throw or fail to end. */
