@@ -6,6 +6,7 @@ public final class RowEdgesTest {
         rowAtHandOfSeven();
         rowAtHandStays();
         memberBehindAWholeRow();
+        rowAtHandIsNotAsHeld();
         cutOfNobody();
         cutOfOneSide();
         cutAtEachPlace();
@@ -157,6 +158,16 @@ public final class RowEdgesTest {
         Due.is("count(3)", x.count(3), 2);
         Due.is("put(2)", x.put(2), 3);
         Due.is("cut(0)", x.cut(0), 3);
+    }
+
+    private static void rowAtHandIsNotAsHeld() {
+        Due.by("promise 13, A ROW: all MEMBERS in an order, as HELD or not");
+        GalleryRows x = Due.withoutBest();
+        Due.put(x, 0, 2, 3);
+        Due.is("cut(0)", x.cut(0), 100);
+        Due.is("wrong(1)", x.wrong(1), 8);
+        Due.is("judge()", x.judge(), 2);
+        Due.is("best(0)", x.best(0), -9);
     }
 
     private static void cutOfNobody() {
