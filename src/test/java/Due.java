@@ -167,6 +167,37 @@ final class Due {
         twins(begin, call, run, want, 0);
     }
 
+    /** All that can be asked without a change: what is remembered of it must not last too long. */
+    static void askAll(GalleryRows x) {
+        List<String> calls = new ArrayList<>();
+        List<Integer> got = new ArrayList<>();
+        counts(x, calls, got);
+        votes(x, calls, got);
+        bestRows(x, calls, got);
+        x.sheet();
+    }
+
+    /** Two objects that came there by other ways answer alike, but for refusals and the image. */
+    static void alike(String ways, GalleryRows one, GalleryRows other) {
+        List<String> calls = new ArrayList<>();
+        List<Integer> due = new ArrayList<>();
+        List<Integer> got = new ArrayList<>();
+        counts(other, calls, due);
+        votes(other, calls, due);
+        rowAtHand(other, calls, due);
+        bestRows(other, calls, due);
+        rest(other, calls, due);
+        counts(one, new ArrayList<>(), got);
+        votes(one, new ArrayList<>(), got);
+        rowAtHand(one, new ArrayList<>(), got);
+        bestRows(one, new ArrayList<>(), got);
+        rest(one, new ArrayList<>(), got);
+        is("answers behind " + ways, got.size(), due.size());
+        for (int i = 0; i < Math.min(got.size(), due.size()); i++) {
+            is(calls.get(i) + " behind " + ways, got.get(i), due.get(i));
+        }
+    }
+
     private static void twins(Supplier<GalleryRows> begin, String call, ToIntFunction<GalleryRows> run, int want,
             int refusal) {
         GalleryRows asked = begin.get();

@@ -15,6 +15,10 @@ public final class HouseEdgesTest {
         awayInVotesAheadOfThem();
         takenOut();
         takenOutToNone();
+        takenOutIsGone();
+        freedIsGone();
+        restoredIsAsItWas();
+        comeIsAsIfItWereFirst();
         heldNumbers();
         heldAtEnds();
         heldOfBothKinds();
@@ -284,6 +288,77 @@ public final class HouseEdgesTest {
         Due.is("judge()", x.judge(), 0);
         Due.is("sheet()", x.sheet(), 0);
         Due.is("best(1)", x.best(1), 12);
+    }
+
+    private static GalleryRows heldInOrder() {
+        GalleryRows x = Due.house(5);
+        for (int m = 1; m < 5; m++) {
+            x.hold(m - 1, m);
+        }
+        x.vote(40, 1, 30);
+        return x;
+    }
+
+    private static void takenOutIsGone() {
+        Due.by("promise 8, what was asked with a VOTE does not last behind it");
+        for (int year : new int[] {0, 50, 99}) {
+            GalleryRows x = heldInOrder();
+            x.vote(year, 2, 29);
+            x.vote(year, 21, 10);
+            Due.is("move(0)", x.move(0) < 1 ? 0 : 1, 1);
+            Due.askAll(x);
+            x.takeOut();
+            Due.askAll(x);
+            x.takeOut();
+            Due.is("move(0)", x.move(0), -9);
+            Due.alike("takeOut()", x, heldInOrder());
+        }
+    }
+
+    private static void freedIsGone() {
+        Due.by("promise 10, what was asked of what is HELD does not last behind it");
+        GalleryRows x = heldInOrder();
+        Due.askAll(x);
+        x.free();
+        GalleryRows never = Due.house(5);
+        never.vote(40, 1, 30);
+        Due.alike("free()", x, never);
+    }
+
+    private static void restoredIsAsItWas() {
+        Due.by("promise 33, what was asked behind the IMAGE does not last");
+        GalleryRows x = heldInOrder();
+        x.image();
+        x.member(0, 99);
+        x.member(0, 99);
+        x.vote(50, 42, 85);
+        x.vote(60, 2, 29);
+        x.hold(5, 6);
+        x.party(2, 1);
+        x.place(3, 1, 4);
+        Due.askAll(x);
+        x.put(6);
+        x.restore();
+        Due.alike("restore()", x, heldInOrder());
+    }
+
+    private static void comeIsAsIfItWereFirst() {
+        Due.by("what comes behind a question counts as what came ahead of it");
+        GalleryRows x = new GalleryRows();
+        GalleryRows same = new GalleryRows();
+        for (int m = 0; m < 5; m++) {
+            Due.askAll(x);
+            x.member(0, 99);
+            same.member(0, 99);
+        }
+        for (int m = 1; m < 5; m++) {
+            x.hold(m - 1, m);
+            same.hold(m - 1, m);
+            Due.askAll(x);
+        }
+        Due.readText(x, "v40:ynnnn;");
+        same.vote(40, 1, 30);
+        Due.alike("questions", x, same);
     }
 
     private static void heldNumbers() {
